@@ -950,10 +950,11 @@ public final class ShareMonitor {
 
         void finish(UserProcess who, int code) {
             memory.regain(who.number, NONE);
-            if (who.status == READY) {
-                rows[who.level].leave(who.number);
-            } else if (who.status == FOR_SEMAPHORE) {
-                queues[who.awaited].leave(who.number);
+            for (int i = 0; i < LEVELS; i++) {
+                rows[i].leave(who.number);
+            }
+            for (int i = 0; i < SEMAPHORES; i++) {
+                queues[i].leave(who.number);
             }
             who.empty();
             for (int p = 1; p <= PROCESSES; p++) {

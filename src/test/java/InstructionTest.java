@@ -12,6 +12,7 @@ public final class InstructionTest {
         flow();
         tooFew();
         tooMany();
+        fullStack();
         otherTraps();
         trapOrder();
         asking();
@@ -154,6 +155,35 @@ public final class InstructionTest {
         m = Check.with("1 ".repeat(39) + "wait");
         m.run(40);
         Check.same("wait has room", m.state(1, 5), 40);
+    }
+
+    /** With 40 numbers what puts no more than it takes is done, and with 39 what puts one more. */
+    private static void fullStack() {
+        for (String word : new String[] {"drop", "swap", "rot", "+", "-", "*", "/", "%", "and", "or", "xor", "not", "left",
+            "right", "=", "<", ">", "a: zero a", "alloc", "free", "give", "send", "kill", "level", "yield", "sleep", "emit",
+            "up", "a: jump a", "call a a: return", "down"}) {
+            done(ONES + word, 41);
+        }
+        done("1 alloc drop " + "0 ".repeat(40) + "@", 44);
+        done("1 alloc drop " + "0 ".repeat(40) + "!", 44);
+        done(ONES + "call a 1 a: return", 42);
+        for (String word : new String[] {"1", "dup", "over", "self", "wait", "a: spawn a"}) {
+            done("1 ".repeat(39) + word, 40);
+        }
+        ShareMonitor m = Check.with("1 ".repeat(39) + "readkey");
+        m.key(1, 5);
+        m.run(40);
+        Check.same("readkey has room", m.state(1, 5), 40);
+        m = Check.with(ONES + "exit");
+        m.run(41);
+        Check.same("exit", m.state(1, 1), 1);
+    }
+
+    private static void done(String text, int ticks) {
+        ShareMonitor m = Check.with(text);
+        m.run(ticks);
+        Check.same("alive: " + text, m.count(7), 0);
+        Check.same("done: " + text, m.state(1, 10) + m.state(2, 10), ticks);
     }
 
     private static void otherTraps() {

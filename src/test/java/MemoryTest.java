@@ -6,6 +6,7 @@ public final class MemoryTest {
         firstThatFits();
         freeing();
         joining();
+        joinedWithin();
         giving();
         storing();
         keptCells();
@@ -86,6 +87,17 @@ public final class MemoryTest {
         joined(three + "0 free 10 free 20 alloc", 0, 20, 1, 20, 10, 1, 30, 994, 0);
         joined(three + "0 free 10 free 10 free", 0, 20, 0, 20, 10, 1, 30, 994, 0);
         joined(three + "0 free 11 alloc", 0, 10, 0, 10, 10, 1, 20, 10, 1, 30, 11, 1, 41, 983, 0);
+    }
+
+    /** What began a block within a joined one begins none any more. */
+    private static void joinedWithin() {
+        ShareMonitor m = Check.with("10 alloc drop 10 alloc drop 0 free drop 10 free drop 20 alloc drop "
+            + "10 free emit 10 1 give emit 10 2 give emit 0 free emit 0 free emit", "9 sleep");
+        m.run(60);
+        int[] want = {-1, -1, -1, 0, -1};
+        for (int i = 0; i < want.length; i++) {
+            Check.same("within a joined block: " + i, m.out(i), want[i]);
+        }
     }
 
     private static void joined(String text, int... want) {

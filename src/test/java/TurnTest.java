@@ -7,6 +7,7 @@ public final class TurnTest {
         turns();
         quantum();
         smallerQuantum();
+        allCount();
         levels();
         keptStreak();
         yielding();
@@ -69,6 +70,19 @@ public final class TurnTest {
         row(m, 0, 1, 2);
         Check.same("more than the quantum", m.tick(), 1);
         row(m, 0, 2, 1);
+    }
+
+    /** Each instruction that is done counts in a row, but for those that place the process. */
+    private static void allCount() {
+        ShareMonitor m = Check.with("5 dup drop 6 swap over 7 rot + - * 3 / 2 % 1 and 1 or 1 xor not 1 left 1 right 0 = "
+            + "0 < 0 > 4 alloc 9 over ! @ 0 free 3 1 give 2 1 send recv emit 0 wait 5 kill self 0 up 0 down zero b b: "
+            + "call c spawn b jump d c: return d: 8 readkey");
+        m.quantum(100);
+        m.key(1, 7);
+        int size = m.count(9);
+        m.run(size);
+        Check.same("all are done", m.state(1, 10), size);
+        Check.same("all in a row", m.state(1, 12), size);
     }
 
     private static void levels() {

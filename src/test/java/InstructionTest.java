@@ -20,59 +20,59 @@ public final class InstructionTest {
     }
 
     private static void shuffles() {
-        leaves("5 -6", 5, -6);
-        leaves("7 dup", 7, 7);
-        leaves("7 8 drop", 7);
-        leaves("7 8 swap", 8, 7);
-        leaves("7 8 over", 7, 8, 7);
-        leaves("1 2 3 4 rot", 1, 3, 4, 2);
-        leaves("3 not", -4);
-        leaves("-1 not", 0);
+        Check.leaves("5 -6", 5, -6);
+        Check.leaves("7 dup", 7, 7);
+        Check.leaves("7 8 drop", 7);
+        Check.leaves("7 8 swap", 8, 7);
+        Check.leaves("7 8 over", 7, 8, 7);
+        Check.leaves("1 2 3 4 rot", 1, 3, 4, 2);
+        Check.leaves("3 not", -4);
+        Check.leaves("-1 not", 0);
     }
 
     private static void sums() {
-        leaves("7 5 +", 12);
-        leaves("2147483647 1 +", MIN);
-        leaves("5 7 -", -2);
-        leaves("-2147483648 1 -", MAX);
-        leaves("-3 7 *", -21);
-        leaves("65536 65536 *", 0);
-        leaves("2147483647 2147483647 *", 1);
-        leaves("7 2 /", 3);
-        leaves("-7 2 /", -3);
-        leaves("7 -2 /", -3);
-        leaves("-7 -2 /", 3);
-        leaves("-2147483648 -1 /", MIN);
-        leaves("7 3 %", 1);
-        leaves("-7 3 %", -1);
-        leaves("7 -3 %", 1);
-        leaves("-2147483648 -1 %", 0);
+        Check.leaves("7 5 +", 12);
+        Check.leaves("2147483647 1 +", MIN);
+        Check.leaves("5 7 -", -2);
+        Check.leaves("-2147483648 1 -", MAX);
+        Check.leaves("-3 7 *", -21);
+        Check.leaves("65536 65536 *", 0);
+        Check.leaves("2147483647 2147483647 *", 1);
+        Check.leaves("7 2 /", 3);
+        Check.leaves("-7 2 /", -3);
+        Check.leaves("7 -2 /", -3);
+        Check.leaves("-7 -2 /", 3);
+        Check.leaves("-2147483648 -1 /", MIN);
+        Check.leaves("7 3 %", 1);
+        Check.leaves("-7 3 %", -1);
+        Check.leaves("7 -3 %", 1);
+        Check.leaves("-2147483648 -1 %", 0);
     }
 
     private static void bits() {
-        leaves("12 10 and", 8);
-        leaves("12 10 or", 14);
-        leaves("12 10 xor", 6);
-        leaves("1 4 left", 16);
-        leaves("1 31 left", MIN);
-        leaves("1 33 left", 2);
-        leaves("1 -1 left", MIN);
-        leaves("-16 2 right", -4);
-        leaves("16 34 right", 4);
-        leaves("-1 -1 right", -1);
+        Check.leaves("12 10 and", 8);
+        Check.leaves("12 10 or", 14);
+        Check.leaves("12 10 xor", 6);
+        Check.leaves("1 4 left", 16);
+        Check.leaves("1 31 left", MIN);
+        Check.leaves("1 33 left", 2);
+        Check.leaves("1 -1 left", MIN);
+        Check.leaves("-16 2 right", -4);
+        Check.leaves("16 34 right", 4);
+        Check.leaves("-1 -1 right", -1);
     }
 
     private static void comparisons() {
-        leaves("3 3 =", 1);
-        leaves("3 4 =", 0);
-        leaves("3 4 <", 1);
-        leaves("4 3 <", 0);
-        leaves("3 3 <", 0);
-        leaves("-2147483648 2147483647 <", 1);
-        leaves("4 3 >", 1);
-        leaves("3 4 >", 0);
-        leaves("3 3 >", 0);
-        leaves("2147483647 -2147483648 >", 1);
+        Check.leaves("3 3 =", 1);
+        Check.leaves("3 4 =", 0);
+        Check.leaves("3 4 <", 1);
+        Check.leaves("4 3 <", 0);
+        Check.leaves("3 3 <", 0);
+        Check.leaves("-2147483648 2147483647 <", 1);
+        Check.leaves("4 3 >", 1);
+        Check.leaves("3 4 >", 0);
+        Check.leaves("3 3 >", 0);
+        Check.leaves("2147483647 -2147483648 >", 1);
     }
 
     private static void flow() {
@@ -100,14 +100,14 @@ public final class InstructionTest {
     private static void tooFew() {
         for (String word : new String[] {"dup", "drop", "not", "zero a", "@", "alloc", "free", "wait", "kill", "level",
             "sleep", "down", "up", "emit", "exit"}) {
-            ends("a: " + word, -2, 0);
+            Check.ends("a: " + word, -2, 0);
         }
         for (String word : new String[] {"swap", "over", "+", "-", "*", "/", "%", "and", "or", "xor", "left", "right",
             "=", "<", ">", "!", "give", "send"}) {
-            ends(word, -2, 0);
-            ends("0 " + word, -2, 1);
+            Check.ends(word, -2, 0);
+            Check.ends("0 " + word, -2, 1);
         }
-        ends("1 2 rot", -2, 2);
+        Check.ends("1 2 rot", -2, 2);
         for (String word : new String[] {"self", "yield", "spawn a", "jump b b: 7", "call b b: 7"}) {
             ShareMonitor m = Check.with("a: " + word);
             m.tick();
@@ -122,7 +122,7 @@ public final class InstructionTest {
         m.run(2);
         Check.same("38 numbers", m.state(1, 5), 38);
         for (String word : new String[] {"1", "dup", "over", "self"}) {
-            ends(ONES + word, -3, 40);
+            Check.ends(ONES + word, -3, 40);
         }
         m = Check.with(ONES + "spawn a a: yield jump a");
         m.run(41);
@@ -148,7 +148,7 @@ public final class InstructionTest {
         m.key(1, 5);
         m.tick();
         Check.same("and is trapped then", m.state(1, 1), -3);
-        ends(ONES + "wait", -3, 40);
+        Check.ends(ONES + "wait", -3, 40);
         m = Check.with("spawn a " + "1 ".repeat(38) + "2 wait a: 9 sleep 5 exit");
         m.run(60);
         Check.same("wait waits, then puts one more", m.state(1, 1), -3);
@@ -187,24 +187,24 @@ public final class InstructionTest {
     }
 
     private static void otherTraps() {
-        ends("1 0 /", -4, 2);
-        ends("1 0 %", -4, 2);
-        ends("0 @", -5, 1);
-        ends("0 0 !", -5, 2);
-        ends("-1 @", -5, 1);
-        ends("1024 @", -5, 1);
-        ends("-2147483648 @", -5, 1);
-        ends("1 2147483647 !", -5, 2);
-        ends("return", -6, 0);
-        ends("a: call a", -6, 20);
-        ends("1", -7, 1);
-        ends("jump z z:", -7, 1);
-        ends("8 down", -8, 1);
-        ends("-1 down", -8, 1);
-        ends("8 up", -8, 1);
-        ends("-1 up", -8, 1);
-        ends("3 level", -9, 1);
-        ends("-1 level", -9, 1);
+        Check.ends("1 0 /", -4, 2);
+        Check.ends("1 0 %", -4, 2);
+        Check.ends("0 @", -5, 1);
+        Check.ends("0 0 !", -5, 2);
+        Check.ends("-1 @", -5, 1);
+        Check.ends("1024 @", -5, 1);
+        Check.ends("-2147483648 @", -5, 1);
+        Check.ends("1 2147483647 !", -5, 2);
+        Check.ends("return", -6, 0);
+        Check.ends("a: call a", -6, 20);
+        Check.ends("1", -7, 1);
+        Check.ends("jump z z:", -7, 1);
+        Check.ends("8 down", -8, 1);
+        Check.ends("-1 down", -8, 1);
+        Check.ends("8 up", -8, 1);
+        Check.ends("-1 up", -8, 1);
+        Check.ends("3 level", -9, 1);
+        Check.ends("-1 level", -9, 1);
         ShareMonitor m = Check.with("a: call a");
         m.run(20);
         Check.same("20 returns", m.state(1, 6), 20);
@@ -212,12 +212,12 @@ public final class InstructionTest {
     }
 
     private static void trapOrder() {
-        ends("/", -2, 0);
-        ends("0 /", -2, 1);
-        ends("3 over", -2, 1);
-        ends("down", -2, 0);
-        ends("5 exit", 5, 1);
-        ends("-5 exit", -5, 1);
+        Check.ends("/", -2, 0);
+        Check.ends("0 /", -2, 1);
+        Check.ends("3 over", -2, 1);
+        Check.ends("down", -2, 0);
+        Check.ends("5 exit", 5, 1);
+        Check.ends("-5 exit", -5, 1);
     }
 
     private static void asking() {
@@ -233,29 +233,5 @@ public final class InstructionTest {
         Check.refused("a free one", m, IndexOutOfBoundsException.class, () -> m.stack(2, 0));
         m.tick();
         Check.refused("an ended one", m, IndexOutOfBoundsException.class, () -> m.stack(1, 0));
-    }
-
-    /** The text's instructions leave these numbers, none being trapped. */
-    private static void leaves(String text, int... numbers) {
-        ShareMonitor m = Check.with(text);
-        int size = m.count(9);
-        Check.same("busy ticks of " + text, m.run(size), size);
-        Check.same("done of " + text, m.state(1, 10), size);
-        Check.same("numbers of " + text, m.state(1, 5), numbers.length);
-        for (int i = 0; i < numbers.length && i < m.state(1, 5); i++) {
-            Check.same("number " + i + " of " + text, m.stack(1, i), numbers[i]);
-        }
-    }
-
-    /** The text ends with this code when so many instructions are done, and nothing is left of it. */
-    private static void ends(String text, int code, int done) {
-        ShareMonitor m = Check.with(text);
-        Check.same("busy ticks of " + text, m.run(200), done + 1);
-        int[] state = {7, code, 0, 0, 0, 0, 0, 0, 0, 0, done, 0, 0};
-        for (int what = 0; what < state.length; what++) {
-            Check.same("state " + what + " of " + text, m.state(1, what), state[what]);
-        }
-        Check.same("ready of " + text, m.count(6), 0);
-        Check.same("ended of " + text, m.count(7), 1);
     }
 }

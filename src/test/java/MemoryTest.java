@@ -18,18 +18,18 @@ public final class MemoryTest {
     private static void allocating() {
         ShareMonitor m = Check.with("10 alloc emit 20 alloc emit 994 alloc emit 1 alloc emit");
         m.run(6);
-        blocks(m, 0, 10, 1, 10, 20, 1, 30, 994, 0);
+        Check.blocks(m, 0, 10, 1, 10, 20, 1, 30, 994, 0);
         Check.same("free cells", m.count(3), 994);
         Check.same("held", m.state(1, 9), 30);
         m.run(6);
-        blocks(m, 0, 10, 1, 10, 20, 1, 30, 994, 1);
+        Check.blocks(m, 0, 10, 1, 10, 20, 1, 30, 994, 1);
         Check.same("address", m.out(0), 0);
         Check.same("address", m.out(1), 10);
         Check.same("address", m.out(2), 30);
         Check.same("none is free", m.out(3), -1);
         Check.same("free cells", m.count(3), 0);
         m.tick();
-        blocks(m, 0, 1024, 0);
+        Check.blocks(m, 0, 1024, 0);
     }
 
     private static void wrongSizes() {
@@ -40,20 +40,20 @@ public final class MemoryTest {
             Check.same("no such size", m.out(i), -1);
         }
         Check.same("all", m.out(5), 0);
-        blocks(m, 0, 1024, 1);
+        Check.blocks(m, 0, 1024, 1);
     }
 
     private static void firstThatFits() {
         ShareMonitor m = Check.with("5 alloc drop 9 alloc drop 5 alloc drop 5 free emit "
             + "6 alloc emit 4 alloc emit 3 alloc emit 1 alloc emit");
         m.run(12);
-        blocks(m, 0, 5, 1, 5, 9, 0, 14, 5, 1, 19, 1005, 0);
+        Check.blocks(m, 0, 5, 1, 5, 9, 0, 14, 5, 1, 19, 1005, 0);
         m.run(12);
         Check.same("the first that has 6", m.out(1), 5);
         Check.same("the first that has 4", m.out(2), 19);
         Check.same("all of what is left there", m.out(3), 11);
         Check.same("behind", m.out(4), 23);
-        blocks(m, 0, 5, 1, 5, 6, 1, 11, 3, 1, 14, 5, 1, 19, 4, 1, 23, 1, 1, 24, 1000, 0);
+        Check.blocks(m, 0, 5, 1, 5, 6, 1, 11, 3, 1, 14, 5, 1, 19, 4, 1, 23, 1, 1, 24, 1000, 0);
     }
 
     private static void freeing() {
@@ -68,7 +68,7 @@ public final class MemoryTest {
         Check.same("nowhere", m.out(4), -1);
         Check.same("its other block", m.out(5), 0);
         Check.same("nowhere", m.out(6), -1);
-        blocks(m, 0, 1024, 0);
+        Check.blocks(m, 0, 1024, 0);
         ShareMonitor other = Check.with("yield 0 free emit 10", "3 alloc drop l: yield jump l");
         other.run(10);
         Check.same("another's block", other.out(0), -1);
@@ -103,7 +103,7 @@ public final class MemoryTest {
     private static void joined(String text, int... want) {
         ShareMonitor m = Check.with(text);
         m.run(m.count(9));
-        blocks(m, want);
+        Check.blocks(m, want);
     }
 
     private static void giving() {
@@ -169,7 +169,7 @@ public final class MemoryTest {
         Check.same("told", m.out(0), 5);
         Check.refused("block 1024", m, IndexOutOfBoundsException.class, () -> m.block(1024, 0));
         m.kill(1);
-        blocks(m, 0, 1024, 0);
+        Check.blocks(m, 0, 1024, 0);
     }
 
     private static void asking() {
@@ -183,13 +183,5 @@ public final class MemoryTest {
         Check.refused("block far", m, IndexOutOfBoundsException.class, () -> m.block(Integer.MIN_VALUE, 0));
         Check.refused("what -1", m, IndexOutOfBoundsException.class, () -> m.block(0, -1));
         Check.refused("what 3", m, IndexOutOfBoundsException.class, () -> m.block(0, 3));
-    }
-
-    /** The blocks are these: address, cells, holder of each. */
-    private static void blocks(ShareMonitor m, int... want) {
-        Check.same("blocks", m.count(4), want.length / 3);
-        for (int i = 0; i < want.length && i / 3 < m.count(4); i++) {
-            Check.same("block " + i / 3 + " " + i % 3, m.block(i / 3, i % 3), want[i]);
-        }
     }
 }

@@ -39,9 +39,9 @@ public final class TurnTest {
         }
         Check.same("in a row", m.state(1, 12), 1);
         Check.same("just came to the end", m.state(3, 12), 0);
-        row(m, 0, 1, 2, 3);
+        Check.row(m, 0, 1, 2, 3);
         m.run(3);
-        row(m, 0, 2, 3, 1);
+        Check.row(m, 0, 2, 3, 1);
         Check.same("just came to the end", m.state(1, 12), 0);
     }
 
@@ -67,9 +67,9 @@ public final class TurnTest {
         ShareMonitor m = Check.with(BUSY, BUSY);
         m.run(3);
         m.quantum(2);
-        row(m, 0, 1, 2);
+        Check.row(m, 0, 1, 2);
         Check.same("more than the quantum", m.tick(), 1);
-        row(m, 0, 2, 1);
+        Check.row(m, 0, 2, 1);
     }
 
     /** Each instruction that is done counts in a row, but for those that place the process. */
@@ -108,7 +108,7 @@ public final class TurnTest {
         Check.load(m, "0 exit", 0);
         Check.same("the lesser level", m.tick(), 3);
         Check.same("what was done in a row is kept", m.state(1, 12), 3);
-        row(m, 1, 1, 2);
+        Check.row(m, 1, 1, 2);
         Check.same("exit", m.tick(), 3);
         Check.same("its fourth", m.tick(), 1);
         Check.same("then the other", m.tick(), 2);
@@ -121,7 +121,7 @@ public final class TurnTest {
         Check.same("yield is done", m.state(1, 10), 2);
         Check.same("just came to the end", m.state(1, 12), 0);
         Check.same("next", m.state(1, 4), 2);
-        row(m, 0, 2, 1);
+        Check.row(m, 0, 2, 1);
         ShareMonitor alone = Check.with("yield 0 sleep -5 sleep 7");
         alone.tick();
         Check.same("alone", alone.ready(0, 0), 1);
@@ -142,17 +142,17 @@ public final class TurnTest {
         Check.same("level", m.state(1, 2), 2);
         Check.same("just came to the end", m.state(1, 12), 0);
         Check.same("level is done", m.state(1, 10), 2);
-        row(m, 0);
-        row(m, 2, 2, 1);
+        Check.row(m, 0);
+        Check.row(m, 2, 2, 1);
         m.run(4);
-        row(m, 2, 1, 2);
+        Check.row(m, 2, 1, 2);
         m.run(3);
-        row(m, 0, 1);
-        row(m, 2, 2);
+        Check.row(m, 0, 1);
+        Check.row(m, 2, 2);
         Check.same("one number left", m.state(1, 5), 1);
         ShareMonitor same = Check.with("0 level 7", BUSY);
         same.run(2);
-        row(same, 0, 2, 1);
+        Check.row(same, 0, 2, 1);
     }
 
     private static void running() {
@@ -179,13 +179,5 @@ public final class TurnTest {
         Check.refused("place 2", m, IndexOutOfBoundsException.class, () -> m.ready(0, 2));
         Check.refused("an empty row", m, IndexOutOfBoundsException.class, () -> m.ready(1, 0));
         Check.refused("far", m, IndexOutOfBoundsException.class, () -> m.ready(0, Integer.MAX_VALUE));
-    }
-
-    private static void row(ShareMonitor m, int level, int... who) {
-        for (int i = 0; i < who.length; i++) {
-            Check.same("row " + level + " place " + i, m.ready(level, i), who[i]);
-        }
-        Check.text("behind the row", Check.thrownBy(() -> m.ready(level, who.length)),
-            IndexOutOfBoundsException.class.getName());
     }
 }

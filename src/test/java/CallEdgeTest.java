@@ -419,6 +419,14 @@ public final class CallEdgeTest {
         Check.states(m, 2, FREE);
         m.reap(1);
         Check.states(m, 1, FREE);
+        for (String text : new String[] {"spawn a wait a: recv", "9 sleep", "7 down"}) {
+            ShareMonitor waits = Check.with(text);
+            waits.run(2);
+            int done = waits.state(1, 10);
+            Check.yes("it waits for something", waits.state(1, 11) > 0);
+            waits.kill(1);
+            Check.states(waits, 1, 7, -1, 0, 0, 0, 0, 0, 0, 0, 0, done, 0, 0);
+        }
     }
 
     private static void stateDone() {

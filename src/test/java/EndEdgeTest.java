@@ -15,6 +15,7 @@ public final class EndEdgeTest {
         programIsGone();
         tooFew();
         fortyNumbers();
+        fortyStay();
         divisors();
         noBlock();
         returns();
@@ -85,6 +86,19 @@ public final class EndEdgeTest {
         waits.run(20);
         Check.same("the third up finds none", waits.semaphore(7, 0), 1);
         Check.same("it stays ENDED", waits.state(2, 0), 7);
+        for (int level = 0; level <= 2; level++) {
+            ShareMonitor each = new ShareMonitor();
+            Check.load(each, BUSY, level);
+            each.kill(1);
+            Check.row(each, level);
+        }
+        for (int k = 0; k <= 7; k++) {
+            ShareMonitor each = Check.with(k + " down");
+            each.run(2);
+            Check.same("it waits", each.semaphore(k, 1), 1);
+            each.kill(1);
+            Check.same("none waits", each.semaphore(k, 1), 0);
+        }
         ShareMonitor sleeper = Check.with("5 sleep 1");
         sleeper.run(2);
         sleeper.kill(1);
@@ -114,6 +128,23 @@ public final class EndEdgeTest {
         Check.same("is nobody's parent", m.state(4, 3), 0);
         m.kill(1);
         Check.same("and its end is nothing to them", m.state(4, 0), 2);
+        ShareMonitor outermost = outermostChildren("recv");
+        outermost.kill(2);
+        Check.same("without parent", outermost.state(1, 3), 0);
+        Check.same("without parent", outermost.state(12, 3), 0);
+        Check.same("alive", outermost.count(5), 11);
+    }
+
+    /** Processes 1 and 12 are children of process 2; they wait, or are ENDED with 5. */
+    private static ShareMonitor outermostChildren(String child) {
+        ShareMonitor m = Check.with(BUSY, "yield" + " spawn a".repeat(2) + " l: yield jump l a: " + child, "recv", "recv",
+            "recv", "recv", "recv", "recv", "recv", "recv", "recv");
+        m.kill(1);
+        m.reap(1);
+        m.run(60);
+        Check.same("parent of 1", m.state(1, 3), 2);
+        Check.same("parent of 12", m.state(12, 3), 2);
+        return m;
     }
 
     private static void childrenEnded() {
@@ -131,6 +162,11 @@ public final class EndEdgeTest {
         Check.same("a grandchild stays", m.state(5, 0), 7);
         m.kill(3);
         Check.states(m, 5, FREE);
+        ShareMonitor outermost = outermostChildren("5 exit");
+        Check.same("ENDED", outermost.count(7), 2);
+        outermost.kill(2);
+        Check.states(outermost, 1, FREE);
+        Check.states(outermost, 12, FREE);
     }
 
     private static void endedWithItsCode() {
@@ -247,6 +283,27 @@ public final class EndEdgeTest {
             key.run(depth + 1);
             Check.same("readkey with " + depth, key.state(1, 1), depth == 40 ? -3 : 0);
         }
+    }
+
+    private static void fortyStay() {
+        Check.sentence("(with 40 numbers, an instruction by which they are no more is done)");
+        for (String word : new String[] {"drop", "swap", "rot", "+", "-", "*", "/", "%", "and", "or", "xor", "not", "left",
+            "right", "=", "<", ">", "a: zero a", "alloc", "free", "give", "send", "kill", "level", "yield", "sleep", "down",
+            "up", "emit", "a: jump a", "a: call a"}) {
+            forty(ONES + word, 41);
+        }
+        forty("1 alloc drop " + "0 ".repeat(40) + "@", 44);
+        forty("1 alloc drop " + "0 ".repeat(40) + "!", 44);
+        forty(ONES + "call a 1 a: return", 42);
+        forty("1 ".repeat(39) + "a: spawn a", 40);
+        Check.ends(ONES + "exit", 1, 40);
+    }
+
+    private static void forty(String text, int ticks) {
+        ShareMonitor m = Check.with(text);
+        m.run(ticks);
+        Check.same("none is ENDED: " + text, m.count(7), 0);
+        Check.same("done: " + text, m.state(1, 10), ticks);
     }
 
     private static void divisors() {

@@ -7,6 +7,7 @@ public final class InstructionEdgeTest {
     private static final String STAY = " l: yield jump l";
 
     public static void main(String[] args) {
+        justEnough();
         wrapping();
         dividing();
         bits();
@@ -40,6 +41,17 @@ public final class InstructionEdgeTest {
         emit();
         readkey();
         Check.close("InstructionEdgeTest");
+    }
+
+    private static void justEnough() {
+        Check.sentence("(before - behind; the last one is the top)");
+        Check.leaves("-2147483648 2147483647", MIN, MAX);
+        Check.leaves("7 dup", 7, 7);
+        Check.leaves("7 drop");
+        Check.leaves("7 8 swap", 8, 7);
+        Check.leaves("7 8 over", 7, 8, 7);
+        Check.leaves("7 8 9 rot", 8, 9, 7);
+        Check.leaves("6 7 8 9 rot", 6, 8, 9, 7);
     }
 
     /** Answers of a b word, worked out here with long numbers. */
@@ -233,6 +245,8 @@ public final class InstructionEdgeTest {
             after("4 alloc drop " + address + " free", 0, 4, 1, 4, 1020, 0);
         }
         Check.leaves("4 alloc free", 0);
+        Check.leaves("1 alloc free", 0);
+        Check.leaves("1 alloc drop 1 alloc drop 1 free 0 free", 0, 0);
         Check.leaves("4 alloc dup free swap free", 0, -1);
         Check.leaves("1020 alloc drop 4 alloc free", 0);
         ShareMonitor m = Check.with("4 alloc" + STAY, "0 free emit" + STAY);
@@ -253,6 +267,10 @@ public final class InstructionEdgeTest {
             Check.leaves("4 alloc drop " + address + " 1 give", -1);
         }
         Check.leaves("4 alloc 1 give 0 @ 0 free", 0, 0, 0);
+        ShareMonitor one = Check.with("1 alloc 1 alloc 1 alloc drop 2 give" + STAY, STAY);
+        one.run(20);
+        Check.numbers(one, 1, 0, 0);
+        Check.blocks(one, 0, 1, 1, 1, 1, 2, 2, 1, 1, 3, 1021, 0);
         ShareMonitor ended = Check.with("yield 4 alloc 2 give" + STAY, "0 exit");
         ended.run(20);
         Check.numbers(ended, 1, -1);

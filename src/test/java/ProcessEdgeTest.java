@@ -18,6 +18,7 @@ public final class ProcessEdgeTest {
         clock();
         sleepers();
         sleepersOfSeveralLevels();
+        twelveSleepers();
         leastLevel();
         quantumOfFour();
         quantumOfOne();
@@ -307,6 +308,24 @@ public final class ProcessEdgeTest {
         Check.row(m, 0, 3);
         Check.row(m, 1, 2);
         Check.row(m, 2, 1);
+    }
+
+    private static void twelveSleepers() {
+        Check.sentence("(all twelve sleep, each till its own time)");
+        ShareMonitor m = new ShareMonitor();
+        for (int p = 1; p <= 12; p++) {
+            // Process p falls asleep at clock 2 * p, and wakes at 100 - 3 * p: 12 first, 1 last.
+            Check.load(m, (100 - 5 * p) + " sleep recv", 0);
+        }
+        m.quantum(2);
+        m.run(24);
+        Check.same("none is READY", m.count(6), 0);
+        for (int p = 12; p >= 1; p--) {
+            int time = 100 - 3 * p;
+            Check.same("wakes", m.state(p, 11), time);
+            Check.same("none before", m.run(time - 1 - m.count(0)), 0);
+            Check.same("at its time", m.tick(), p);
+        }
     }
 
     private static void leastLevel() {

@@ -371,6 +371,18 @@ public final class EndEdgeTest {
         ShareMonitor m = Check.with("spawn z l: yield jump l z:");
         m.run(20);
         Check.same("a child behind the last one", m.state(2, 1), -7);
+        // A longer program that is gone, or a text with a fault, leaves no instruction to a shorter one.
+        ShareMonitor shorter = Check.with("7 ".repeat(256));
+        shorter.kill(1);
+        shorter.reap(1);
+        Check.load(shorter, "1", 0);
+        shorter.run(2);
+        Check.same("behind a shorter one", shorter.state(1, 1), -7);
+        ShareMonitor faulty = new ShareMonitor();
+        Check.same("a fault", Check.load(faulty, "1 2 3 4 foo", 0), -9);
+        Check.load(faulty, "1", 0);
+        faulty.run(2);
+        Check.same("behind one that came after a fault", faulty.state(1, 1), -7);
     }
 
     private static void noSemaphore() {
